@@ -451,9 +451,11 @@ public final class RisingPiles {
         }
 
         private int rankAt(int at) {
+            int key = keyAt(at);
             int earlier = 0;
             for (int i = 0; i < held; i++) {
-                if (keyAt(i) < keyAt(at) || (keyAt(i) == keyAt(at) && i < at)) {
+                int other = keyAt(i);
+                if (other < key || (other == key && i < at)) {
                     earlier++;
                 }
             }
