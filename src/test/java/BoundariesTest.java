@@ -47,7 +47,7 @@ public final class BoundariesTest {
     }
 
     private void put(Sentence sentence) {
-        for (String wrong : sentence.wrong(Program::new)) {
+        for (String wrong : wrongInProgram(sentence)) {
             fail(sentence.heading(), sentence.words(), wrong);
         }
         for (String wrong : sentence.wrong(Model::new)) {
@@ -58,6 +58,15 @@ public final class BoundariesTest {
         }
         if (sentence.faults() == 0) {
             fail(sentence.heading(), sentence.words(), "no fault tries the test");
+        }
+    }
+
+    /** A call that throws fails its sentence, not those behind it. */
+    private static List<String> wrongInProgram(Sentence sentence) {
+        try {
+            return sentence.wrong(Program::new);
+        } catch (RuntimeException e) {
+            return List.of("a call throws " + e);
         }
     }
 
