@@ -27,6 +27,7 @@ public final class FaceTest {
         methods(due);
         constants(due);
         constructors(due);
+        classesInside(due);
         due.end();
     }
 
@@ -69,5 +70,21 @@ public final class FaceTest {
         due.is("how many constructors there are", found.length, 1);
         due.isTrue("the constructor is public and takes nothing", found.length == 1
             && Modifier.isPublic(found[0].getModifiers()) && found[0].getParameterCount() == 0);
+    }
+
+    private static void classesInside(Due due) {
+        TreeSet<String> names = new TreeSet<>();
+        for (String method : METHODS) {
+            names.add(method.substring(0, method.indexOf('(')));
+        }
+        for (Class<?> inside : RisingPiles.class.getDeclaredClasses()) {
+            int modifiers = inside.getModifiers();
+            due.isTrue(inside + " is static, and private or package-visible", Modifier.isStatic(modifiers)
+                && !Modifier.isPublic(modifiers) && !Modifier.isProtected(modifiers));
+            for (Method method : inside.getDeclaredMethods()) {
+                due.isTrue(method + " bears no public name",
+                    !Modifier.isPrivate(method.getModifiers()) || !names.contains(method.getName()));
+            }
+        }
     }
 }

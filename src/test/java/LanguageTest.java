@@ -4,9 +4,15 @@ import java.nio.file.Path;
 import java.util.regex.Matcher;
 import java.util.regex.Pattern;
 
-/** The rules of LANGUAGE.md that a plain reading of the file can show, and no stricter than they are written. */
+/**
+ * The rules of LANGUAGE.md that a plain reading of the file can show, and no stricter than they are written; and one
+ * thing that is this program's own choice, that no call makes an object.
+ */
 public final class LanguageTest {
     private static final Due DUE = new Due("LanguageTest");
+    /** A method ends at the brace that stands as far in as its first line. */
+    private static final Pattern METHOD =
+        Pattern.compile("(?m)^( +)(?!.*\\bclass\\b)\\S[^\n;=]*\\) \\{\n(?s:.*?)^\\1\\}$");
 
     public static void main(String[] args) throws IOException {
         String source = Files.readString(Path.of("src/main/java/RisingPiles.java"));
@@ -25,6 +31,7 @@ public final class LanguageTest {
             .allMatch(c -> c == '\n' || c >= 32 && c < 127));
         DUE.isTrue("rule 11: some twelve classes", count(code, "\\b(?:class|record|enum|interface) \\w+") <= 14);
         longMethods(code);
+        madeInConstructors(code);
         DUE.end();
     }
 
@@ -43,12 +50,20 @@ public final class LanguageTest {
         return (int) Pattern.compile(pattern).matcher(code).results().count();
     }
 
-    /** A method ends at the brace that stands as far in as its first line. */
     private static void longMethods(String code) {
-        Pattern method = Pattern.compile("(?m)^( +)(?!.*\\bclass\\b)\\S[^\n;=]*\\) \\{\n(?s:.*?)^\\1\\}$");
-        Matcher matcher = method.matcher(code);
+        Matcher matcher = METHOD.matcher(code);
         while (matcher.find()) {
             DUE.isTrue("rule 11: short is " + matcher.group().split("\n")[0].trim(), matcher.group().lines().count() <= 64);
+        }
+    }
+
+    /** All calls of a run live in one room: what no call makes need not be counted. */
+    private static void madeInConstructors(String code) {
+        Matcher matcher = METHOD.matcher(code);
+        while (matcher.find()) {
+            String first = matcher.group().split("\n")[0].trim();
+            boolean makes = Pattern.compile("\\bnew\\b|\\.clone\\(|\\bcopyOf").matcher(matcher.group()).find();
+            DUE.isTrue("no call makes an object: " + first, !makes || first.matches("(?:public )?[A-Z]\\w*\\(\\) \\{"));
         }
     }
 }
